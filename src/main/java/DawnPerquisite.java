@@ -1410,7 +1410,7 @@ public final class DawnPerquisite {
         private int count = 0;
         private int next = 0;
         private int law = BIDS_LAW;
-        private Text text = null;
+        private Text text = new Text();
         int fault = 0;
         int place = NONE;
 

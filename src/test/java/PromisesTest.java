@@ -174,6 +174,17 @@ public final class PromisesTest {
         Check.fault("bids 1;;", 1, 7);
         Check.fault("Bids 1;", 1, 0);
         Check.fault("bidsx 1;", 1, 0);
+        Check.fault("bidsz 1;", 1, 0);
+        Check.fault("bidsA 1;", 1, 0);
+        Check.fault("bidsZ 1;", 1, 0);
+        Check.fault("bids[1;", 1, 4);
+        Check.fault("bids`1;", 1, 4);
+        Check.fault(";".repeat(300), 1, 0);
+        Check.fault("bids" + "+1".repeat(148), 1, 4);
+        Check.fault("bids 1" + "+1".repeat(146) + " ;", 0, NONE);
+        Check.fault("bids 1" + "+1".repeat(147), 1, 300);
+        Check.fault("bids if 1>", 1, 10);
+        Check.fault("bids if 1>=", 1, 11);
         Check.fault("bids longer;", 1, 5);
         Check.fault("bids da y;", 1, 5);
         Check.fault("bids dayday;", 1, 5);
@@ -627,11 +638,42 @@ public final class PromisesTest {
         due("p15 sort", x.is(3), behind % 5);
         due("p15 x", x.is(1), (behind * 719 + 587) % 31039);
         due("p15 one step", x.about(3), 3);
-        // 518 is even, so seeds make odd x alone at first: the second x may be even
+        yearsGivenAndTurned();
         due("p15", x.years(9999, 40) >= 1, true);
         due("p15 one step", x.about(3), 4);
         due("p15 undone", x.undo(), 3);
         due("p15 day", x.is(0), 1);
+    }
+
+    private static void yearsGivenAndTurned() {
+        DawnPerquisite x = fresh();
+        x.buyer(31, 0, 3, 50);
+        x.buyer(31, 4, 6, 50);
+        x.sell(0);
+        x.sell(1);
+        // 477: mod 6 is 3, 79 mod 6 is 1, but mod 4 is 1
+        x.years(10, 1);
+        due("p15 not turned away", x.at(4), 1);
+        // 471: mod 6 is 3, mod 4 is 3, 78 mod 6 is 0
+        x.years(7, 1);
+        due("p15 turned away", x.at(0), NONE);
+        due("p15 written", x.book(2, 1) * 10 + x.book(2, 2), 20);
+        x.years(7, 1);
+        due("p15 none to turn away", x.book(NONE, 0), 3);
+        // 813, which does nothing, then 26432: mod 6 is 2, 4405 mod 3 is 1, mod 12 is 8
+        x.years(178, 2);
+        due("p15 given", x.at(8), 6);
+        due("p15 written", x.book(3, 1) * 10 + x.book(3, 2), 18);
+        x.years(178, 2);
+        due("p15 given already", x.book(NONE, 0), 4);
+        // 789, then 9176: mod 6 is 2, mod 12 is 8, but 1529 mod 3 is 2
+        x.undo();
+        x.undo();
+        x.years(166, 2);
+        due("p15 not given", x.at(8), NONE);
+        due("p15 x", x.is(1), (9176 * 719 + 587) % 31039);
+        DawnPerquisite y = atDay(9999);
+        due("p15 no day can pass", y.years(2, 1), 9999);
     }
 
     private static void p16() {
@@ -1378,6 +1420,8 @@ public final class PromisesTest {
         x.image();
         x.sort(0, 1, 1);
         x.buyer(1, 1, 1, 1);
+        x.said(NONE, 0);
+        x.said(1, 50);
         Check.text(x, "bids 8;");
         x.by(1);
         x.value(2, 1);
@@ -1404,6 +1448,21 @@ public final class PromisesTest {
         x.undo();
         due("p57 steps again", x.undo(), NONE + x.about(3));
         due("p57 none sold", x.is(4), 4095);
+        saidAgain();
+    }
+
+    private static void saidAgain() {
+        DawnPerquisite x = four();
+        Check.text(x, "bids buyer*9;");
+        x.said(1, 9);
+        x.image();
+        x.said(NONE, 0);
+        x.said(2, 18);
+        x.said(2, 17);
+        due("p57 said otherwise", x.whose(), 0);
+        x.back();
+        due("p57 who said what", x.whose(), 1);
+        due("p57 how many", x.about(5), 1);
     }
 
     /** Every answer that tells what is, mixed into one number. */

@@ -1,0 +1,99 @@
+import java.io.IOException;
+import java.lang.reflect.Constructor;
+import java.lang.reflect.Field;
+import java.lang.reflect.Method;
+import java.lang.reflect.Modifier;
+import java.nio.charset.StandardCharsets;
+import java.nio.file.Files;
+import java.nio.file.Path;
+import java.util.List;
+import java.util.Set;
+import java.util.TreeSet;
+import java.util.regex.Pattern;
+
+/** Rules of LANGUAGE.md that the program's text and its compiled classes show. */
+public final class RulesTest {
+    private static final Path PROGRAM = Path.of("src/main/java/DawnPerquisite.java");
+    private static final Set<String> FACE = new TreeSet<>(List.of(("sort buyer feed end text fault by sell give turn pass day "
+        + "played years undo of ofSort at is book foretold pack see hope keep chance first paid was surest likeliest ask auction "
+        + "stab crowd dawns month value ends take best said whose richest rival learnt wanted alone since idle poor room can "
+        + "ledger image back about").split(" ")));
+
+    private static void must(String what, boolean holds) {
+        Check.due(what, holds, true);
+    }
+
+    private static void words(String code) {
+        for (String word : List.of("throw", "throws", "try", "catch", "synchronized", "assert", "import", "package", "instanceof",
+            "record", "native", "volatile", "protected", "Object", "System\\.out", "Integer\\.(?!bitCount)", "double", "float")) {
+            must("no " + word, !Pattern.compile("\\b" + word + "\\b").matcher(code).find());
+        }
+        for (String sign : List.of("->", "::", "Exact(", "@")) {
+            must("no " + sign, !code.contains(sign));
+        }
+        must("signs of 1 to 127", code.chars().allMatch(c -> c == 10 || c >= 32 && c < 127));
+        must("no joining of texts by +", !Pattern.compile("\"\\s*\\+|\\+\\s*\"").matcher(code).find());
+    }
+
+    /** Objects are made for fields, and in the loops of two constructors that fill a row of them. */
+    private static void objects(String code) {
+        for (String line : code.split("\n")) {
+            boolean field = line.matches(" +(private )?(static )?(final )?[A-Z]?[a-z]+(\\[\\])* \\w+ = new .*;");
+            boolean row = line.matches(" +(texts\\[text\\] = new Text\\(\\)|past\\[step\\] = new Wall\\(\\));");
+            must("makes nothing in a call: " + line, !line.matches(".*\\bnew\\b.*") || field || row);
+        }
+    }
+
+    private static void shortMethods(String code) {
+        int begun = 0;
+        String[] lines = code.split("\n");
+        for (int i = 0; i < lines.length; i++) {
+            if (lines[i].matches(" {4}( {4})?[a-z].*\\) \\{")) {
+                begun = i;
+            }
+            if (lines[i].matches(" {4}( {4})?\\}")) {
+                must("a short method at line " + (begun + 1), begun == 0 || i - begun <= 60 || lines[i].equals("    }"));
+            }
+        }
+    }
+
+    private static void members(Class<?> type, boolean face) {
+        int fields = 0;
+        for (Field field : type.getDeclaredFields()) {
+            int is = field.getModifiers();
+            must("a static field is final: " + field, !Modifier.isStatic(is) || Modifier.isFinal(is));
+            must("the face alone can be seen: " + field, !face || Modifier.isPrivate(is) || field.getName().equals("NONE"));
+            fields += Modifier.isStatic(is) ? 0 : 1;
+        }
+        must("some twenty fields in " + type, fields <= 20);
+        for (Method method : type.getDeclaredMethods()) {
+            boolean seen = !Modifier.isPrivate(method.getModifiers());
+            must("the face alone can be seen: " + method, !face || seen == FACE.contains(method.getName()));
+            must("no other method bears a name of the face: " + method, face || !FACE.contains(method.getName()));
+            must("seven parameters: " + method, method.getParameterCount() <= 7);
+        }
+        for (Constructor<?> constructor : type.getDeclaredConstructors()) {
+            must("a plain constructor: " + constructor, constructor.getParameterCount() == 0);
+        }
+    }
+
+    public static void main(String[] args) throws IOException {
+        String code = Files.readString(PROGRAM, StandardCharsets.ISO_8859_1);
+        String bare = code.replaceAll("(?s)/\\*.*?\\*/", "").replaceAll("//[^\n]*", "");
+        words(bare);
+        objects(bare);
+        shortMethods(bare);
+        members(DawnPerquisite.class, true);
+        Class<?>[] inside = DawnPerquisite.class.getDeclaredClasses();
+        must("some twelve classes", inside.length <= 12);
+        for (Class<?> type : inside) {
+            must("static and private: " + type, Modifier.isStatic(type.getModifiers()) && Modifier.isPrivate(type.getModifiers()));
+            members(type, false);
+        }
+        long public58 = List.of(DawnPerquisite.class.getDeclaredMethods()).stream()
+            .filter(m -> Modifier.isPublic(m.getModifiers())).count();
+        Check.due("methods of the face", public58, FACE.size());
+        Check.due("methods of the document", FACE.size(), 57);
+        Check.report("RulesTest");
+    }
+}
