@@ -38,7 +38,7 @@ public final class RulesTest {
     /** Objects are made for fields, and in the loops of two constructors that fill a row of them. */
     private static void objects(String code) {
         for (String line : code.split("\n")) {
-            boolean field = line.matches(" +(private )?(static )?(final )?[A-Z]?[a-z]+(\\[\\])* \\w+ = new .*;");
+            boolean field = line.matches(" +(private (static )?(final )?|(static )?final )[A-Z]?[a-z]+(\\[\\])* \\w+ = new .*;");
             boolean row = line.matches(" +(texts\\[text\\] = new Text\\(\\)|past\\[step\\] = new Wall\\(\\));");
             must("makes nothing in a call: " + line, !line.matches(".*\\bnew\\b.*") || field || row);
         }
