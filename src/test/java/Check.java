@@ -2,6 +2,8 @@
 final class Check {
     static int wrong = 0;
     static int done = 0;
+    /** The test that is run, told ahead of every wrong answer. */
+    static String within = "";
 
     private Check() {
     }
@@ -10,7 +12,7 @@ final class Check {
         done++;
         if (got != want) {
             wrong++;
-            System.out.println(what + " answered " + got + ", due is " + want);
+            System.out.println(within + what + " answered " + got + ", due is " + want);
         }
     }
 

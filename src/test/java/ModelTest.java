@@ -19,6 +19,7 @@ public final class ModelTest {
     private final Model model = new Model();
     private final List<String> calls = new ArrayList<>();
     private final Map<String, Integer> many;
+    private int made = 0;
     private boolean wrong = false;
 
     private ModelTest(long seed, Map<String, Integer> many) {
@@ -49,6 +50,11 @@ public final class ModelTest {
 
     private long call(String name, Object... arguments) {
         Method[] both = METHODS.get(name);
+        if (made == CALLS) {
+            // what later calls answer is free
+            return 0;
+        }
+        made++;
         try {
             long got = number(both[0].invoke(program, arguments));
             long want = number(both[1].invoke(model, arguments));
@@ -192,7 +198,7 @@ public final class ModelTest {
         call("end", text.length());
         calls.add("  the text: " + text);
         if (call("text") >= 0) {
-            call("by", upTo((int) call("about", 1) - 1));
+            call("by", upTo(Math.max(0, (int) call("about", 1) - 1)));
         }
         many.merge("fault of number " + call("fault", 0), 1, Integer::sum);
         call("fault", 1);
@@ -299,7 +305,7 @@ public final class ModelTest {
         for (int i = 0; late && i < 167; i++) {
             call("day", i == 166 ? 32 : 60);
         }
-        while (calls.size() < CALLS && !wrong) {
+        while (made < CALLS && !wrong) {
             int kind = upTo(9);
             if (kind < 3) {
                 tell();

@@ -1405,7 +1405,7 @@ public final class PromisesTest {
         due("p56 the latest", x.back(), 4);
     }
 
-    private static void p57() {
+    private static DawnPerquisite imaged() {
         DawnPerquisite x = four();
         x.sort(0, 3, 60);
         Check.text(x, "bids 7;");
@@ -1416,8 +1416,11 @@ public final class PromisesTest {
         x.sell(0);
         x.day(2);
         x.sell(1);
-        long was = all(x);
         x.image();
+        return x;
+    }
+
+    private static void changed(DawnPerquisite x) {
         x.sort(0, 1, 1);
         x.buyer(1, 1, 1, 1);
         x.said(NONE, 0);
@@ -1429,25 +1432,43 @@ public final class PromisesTest {
         x.said(1, 7);
         x.day(40);
         x.years(7, 30);
+        faulty(x);
+    }
+
+    private static void faulty(DawnPerquisite x) {
         Check.text(x, "bids !;");
         x.feed(1, 2, 3, 4, 5);
+    }
+
+    private static void p57() {
+        DawnPerquisite x = imaged();
+        changed(x);
         due("p57", x.back(), 2);
-        due("p57 all is so again", all(x), was);
         due("p57 the tape isn't", x.about(6), 20);
         due("p57 the fault isn't", x.fault(0), 1);
-        due("p57 steps", x.undo(), x.about(3));
-        due("p57 a text anew", Check.text(x, "bids 9;"), 1);
-        x.by(1);
-        due("p57 rules", x.of(0, 4), 9);
-        x.by(0);
-        due("p57 the elder rules", x.of(0, 4), 7);
-        due("p57 it stays", x.back(), 2);
-        due("p57 all is so again", all(x), was);
-        x.undo();
-        x.undo();
-        x.undo();
-        due("p57 steps again", x.undo(), NONE + x.about(3));
-        due("p57 none sold", x.is(4), 4095);
+        DawnPerquisite same = imaged();
+        faulty(same);
+        Edges.same("p57 all is so again", x, same);
+        DawnPerquisite y = imaged();
+        changed(y);
+        y.back();
+        due("p57 steps", y.undo(), y.about(3));
+        due("p57 a text anew", Check.text(y, "bids 9;"), 1);
+        y.by(1);
+        due("p57 rules", y.of(0, 4), 9);
+        y.by(0);
+        due("p57 the elder rules", y.of(0, 4), 7);
+        due("p57 it stays", y.back(), 2);
+        DawnPerquisite again = imaged();
+        Edges.same("p57 all is so again", y, again);
+        DawnPerquisite z = imaged();
+        changed(z);
+        z.back();
+        z.undo();
+        z.undo();
+        z.undo();
+        due("p57 steps again", z.undo(), NONE + z.about(3));
+        due("p57 none sold", z.is(4), 4095);
         saidAgain();
     }
 
@@ -1463,18 +1484,6 @@ public final class PromisesTest {
         x.back();
         due("p57 who said what", x.whose(), 1);
         due("p57 how many", x.about(5), 1);
-    }
-
-    /** Every answer that tells what is, mixed into one number. */
-    private static long all(DawnPerquisite x) {
-        long all = 0;
-        for (int i = 0; i < 12; i++) {
-            all = all * 31 + x.is(i) + 7L * x.at(i) + 11L * x.about(i < 6 ? i : 5) + 13L * x.ends(i, i);
-            for (int j = 0; j < 7; j++) {
-                all = all * 31 + x.of(i, j) + 5L * x.ofSort(i, j) + 3L * x.book(i, j);
-            }
-        }
-        return (all * 31 + x.was()) * 31 + x.whose();
     }
 
     private static void p58() {
