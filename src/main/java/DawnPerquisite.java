@@ -720,7 +720,8 @@ public final class DawnPerquisite {
         int bidders = 0;
         for (int buyer = 0; buyer < now.buyers; buyer++) {
             if (wantsSort(buyer, now.wall.sort) && wantsSlice(buyer, slice)) {
-                int bid = bidsNow(buyer) / now.longOf(buyer);
+                int slices = now.longOf(buyer);
+                int bid = slices > 0 ? bidsNow(buyer) / slices : 0;
                 if (bid > most) {
                     next = Math.max(most, 0);
                     most = bid;
@@ -1237,7 +1238,7 @@ public final class DawnPerquisite {
         }
 
         int longOf(int buyer) {
-            return Math.max(1, to[buyer] - from[buyer] + 1);
+            return to[buyer] - from[buyer] + 1;
         }
 
         int slicesOf(int buyer) {

@@ -7,12 +7,16 @@ import java.nio.charset.StandardCharsets;
 import java.nio.file.Files;
 import java.nio.file.Path;
 import java.util.List;
+import java.util.Map;
 import java.util.Set;
+import java.util.TreeMap;
 import java.util.TreeSet;
+import java.util.regex.Matcher;
 import java.util.regex.Pattern;
 
 /** Rules of LANGUAGE.md that the program's text and its compiled classes show. */
 public final class RulesTest {
+    private static final String LIBRARY = "a function of the library";
     private static final Path PROGRAM = Path.of("src/main/java/DawnPerquisite.java");
     private static final Set<String> FACE = new TreeSet<>(List.of(("sort buyer feed end text fault by sell give turn pass day "
         + "played years undo of ofSort at is book foretold pack see hope keep chance first paid was surest likeliest ask auction "
@@ -57,6 +61,68 @@ public final class RulesTest {
         }
     }
 
+    /** What each method calls, by its name; a function of the library is a leaf. */
+    private static Map<String, Set<String>> calls(String code) {
+        Pattern header = Pattern.compile(" {4}( {4})?(?:(?:public|private|static|final) )*[\\w\\[\\]]+ (\\w+)\\(.*\\) \\{");
+        Pattern call = Pattern.compile("((?:Math|Integer|Long|System)\\.)?\\b(\\w+)\\(");
+        Map<String, Set<String>> calls = new TreeMap<>();
+        String within = "";
+        for (String line : code.split("\n")) {
+            Matcher method = header.matcher(line);
+            if (method.matches()) {
+                within = method.group(2);
+                calls.putIfAbsent(within, new TreeSet<>());
+            } else if (calls.containsKey(within)) {
+                Matcher called = call.matcher(line);
+                while (called.find()) {
+                    calls.get(within).add(called.group(1) == null ? called.group(2) : LIBRARY);
+                }
+            }
+        }
+        calls.put(LIBRARY, new TreeSet<>());
+        calls.values().forEach(called -> called.retainAll(calls.keySet()));
+        return calls;
+    }
+
+    private static Map<String, Set<String>> reached(Map<String, Set<String>> calls) {
+        Map<String, Set<String>> reached = new TreeMap<>();
+        calls.forEach((name, called) -> reached.put(name, new TreeSet<>(called)));
+        for (String between : calls.keySet()) {
+            for (Set<String> called : reached.values()) {
+                if (called.contains(between)) {
+                    called.addAll(reached.get(between));
+                }
+            }
+        }
+        return reached;
+    }
+
+    /** How deep the calls from a method go, where methods that call one another around (a recursion) count once. */
+    private static int deep(String name, Map<String, Set<String>> calls, Map<String, Set<String>> reached) {
+        int most = 0;
+        for (String one : calls.keySet()) {
+            boolean around = reached.get(name).contains(one) && reached.get(one).contains(name);
+            if (around || one.equals(name)) {
+                for (String called : calls.get(one)) {
+                    if (!reached.get(called).contains(name)) {
+                        most = Math.max(most, called.equals(name) ? 0 : deep(called, calls, reached));
+                    }
+                }
+            }
+        }
+        return most + 1;
+    }
+
+    private static void depth(String code) {
+        Map<String, Set<String>> calls = calls(code);
+        Map<String, Set<String>> reached = reached(calls);
+        must("calls are seen", calls.get("played").contains("play") && reached.get("played").contains(LIBRARY));
+        must("a recursion is seen", reached.get("sum").contains("sum"));
+        for (String name : calls.keySet()) {
+            must("calls go at most eight deep from " + name, deep(name, calls, reached) <= 8);
+        }
+    }
+
     private static void members(Class<?> type, boolean face) {
         int fields = 0;
         for (Field field : type.getDeclaredFields()) {
@@ -83,6 +149,7 @@ public final class RulesTest {
         words(bare);
         objects(bare);
         shortMethods(bare);
+        depth(bare);
         members(DawnPerquisite.class, true);
         Class<?>[] inside = DawnPerquisite.class.getDeclaredClasses();
         must("some twelve classes", inside.length <= 12);
